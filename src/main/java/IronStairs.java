@@ -17,35 +17,31 @@ public final class IronStairs {
     private static final int SHY_MINUTES = 30;
     private static final int COUNTS = 10;
 
-    private final Ways ways;
     private final Back now;
-    /** A back to try things on, so that the real one stays as it is. */
+    /** Nights and texts are tried on this one, so that the real one stays as it is. */
     private final Back spare;
     private final Back image0;
     private final Back image1;
     private boolean kept0;
     private boolean kept1;
     private final Reader reader;
-    /** How many calls were refused as BAD, NO, FULL. */
+    /** Calls refused as BAD, NO, FULL. */
     private final Row refused;
     private long above;
     private long below;
-    /** Where the two goers in question are, minute by minute. */
+    // These rows hold for one call only. They stand here as a run has little room: no call makes an object.
     private final Row pathA;
     private final Row pathB;
-    /** Whether shy goers meet (1, 0), by both their stays. */
     private final Row met;
-    /** How far each goer is from each one's home. */
     private final Row toHomes;
-    /** The least ways to homes, by the homes that are taken (bits). */
+    /** By the homes that are taken (bits). */
     private final Row least;
 
     public IronStairs() {
-        ways = new Ways();
-        now = new Back(ways);
-        spare = new Back(ways);
-        image0 = new Back(ways);
-        image1 = new Back(ways);
+        now = new Back();
+        spare = new Back();
+        image0 = new Back();
+        image1 = new Back();
         reader = new Reader();
         refused = new Row(3);
         above = 0;
@@ -441,7 +437,7 @@ public final class IronStairs {
         }
     }
 
-    /** The first minute in which A and B, staying so long at first, are in one cell. */
+    /** The paths are of goers who go at once: who stays at first is so much behind on his. */
     private int firstMeeting(int stayA, int stayB, int last) {
         for (int t = 0; t <= last; t++) {
             int a = pathA.get(Math.max(0, t - stayA));
@@ -451,7 +447,6 @@ public final class IronStairs {
         return NONE;
     }
 
-    /** How many goers have no way to floor 0 without a ladder. */
     private int goersCutOff(int ladder) {
         int without = 0;
         for (int i = 0; i < now.goers.size(); i++) {
@@ -476,14 +471,14 @@ public final class IronStairs {
         }
     }
 
-    /** From all homes taken to none: more homes taken are more bits, so a greater number. */
+    /** Downwards, as what is left behind more homes taken must be known first: more bits are a greater number. */
     private void fillLeast() {
         int all = (1 << now.goers.size()) - 1;
         least.set(all, 0);
         for (int taken = all - 1; taken >= 0; taken--) least.set(taken, leastBehind(taken));
     }
 
-    /** The least way of all goers whose homes are not chosen yet; they choose as they come. */
+    /** Goers choose as they come, so as many homes are taken as have chosen. */
     private int leastBehind(int taken) {
         int chooser = Integer.bitCount(taken);
         int best = NONE;
@@ -495,7 +490,6 @@ public final class IronStairs {
         return best;
     }
 
-    /** The least way of a goer to the home of j and of all behind him to what is left. */
     private int wayThrough(int chooser, int j, int taken) {
         int steps = toHomes.get(GOERS * chooser + j);
         int rest = least.get(taken | 1 << j);
@@ -520,7 +514,7 @@ public final class IronStairs {
         return NONE;
     }
 
-    /** Whether all sounds could be of a goer, whose way is path A. */
+    /** Path A is the goer's own. */
     private boolean fitsSounds(int i) {
         for (int s = 0; s < now.sounds.size(); s++) {
             int m = now.sounds.get(s, 1);
@@ -548,7 +542,6 @@ public final class IronStairs {
         return true;
     }
 
-    /** The size of the greatest part of some kinds that are as loud as one another. */
     private static int mostAlike(int bits, int f, int m) {
         int most = 0;
         for (int kind = 0; kind < KINDS; kind++) {
@@ -579,7 +572,6 @@ public final class IronStairs {
         return true;
     }
 
-    /** The greater of the part of some kinds that hears a step and the part that does not. */
     private static int greaterPart(int bits, int x, int d) {
         int hearers = 0;
         for (int kind = 0; kind < KINDS; kind++) {
@@ -639,12 +631,10 @@ public final class IronStairs {
         return c / COLUMNS;
     }
 
-    /** Floors and columns together, whatever the ways. */
     private static int apart(int a, int b) {
         return Math.abs(a / COLUMNS - b / COLUMNS) + Math.abs(a % COLUMNS - b % COLUMNS);
     }
 
-    /** How loud a step of a kind of goers is. */
     private static int loudness(int kind, int f, int m) {
         boolean odd = m % 2 != 0;
         switch (kind) {
@@ -665,7 +655,6 @@ public final class IronStairs {
         return slipper(f) + 2;
     }
 
-    /** How much a kind of windows hears of a step. */
     private static int hearing(int kind, int x, int d) {
         switch (kind) {
             case 0: return x - d;
@@ -685,7 +674,7 @@ public final class IronStairs {
         return x > d ? (x - d) / 2 : x - d;
     }
 
-    /** A row of numbers that looks at each index before it uses it. */
+    /** All arrays are in here, so that every index is looked at before it is used. */
     private static final class Row {
         private final int[] cells;
 
@@ -732,14 +721,14 @@ public final class IronStairs {
         }
 
         int get(int r, int column) {
-            return has(r) ? cells.get(r * width + column) : 0;
+            return has(r) && column >= 0 && column < width ? cells.get(r * width + column) : 0;
         }
 
         void set(int r, int column, int value) {
-            if (has(r) && column < width) cells.set(r * width + column, value);
+            if (has(r) && column >= 0 && column < width) cells.set(r * width + column, value);
         }
 
-        /** A new row of these numbers, as many as it has, and zeros: which. */
+        /** Numbers for which there is no column fall away; columns for which there is no number are 0. */
         int add(int a, int b, int c, int d) {
             if (isFull()) return NONE;
             int r = size;
@@ -781,7 +770,7 @@ public final class IronStairs {
 
     /** The shortest ways between cells, by the ladders that are down. */
     private static final class Ways {
-        /** The steps from each cell to a goal, a run of cells for each goal. */
+        /** For each goal a run of all cells. */
         private final Row steps = new Row(CELLS * CELLS);
         private final Row queue = new Row(CELLS);
         /** Goals (bits) whose steps are known for the ladders as they are. */
@@ -830,7 +819,7 @@ public final class IronStairs {
             known |= 1 << goal;
         }
 
-        /** The cell on a side, or none; sides in the order in which the cells rise. */
+        /** Sides are in the order in which their cells rise, as the least cell goes first. */
         private int beside(int c, int side) {
             switch (side) {
                 case 0: return c >= COLUMNS && (open >> (c - COLUMNS) & 1) == 1 ? c - COLUMNS : NONE;
@@ -853,14 +842,10 @@ public final class IronStairs {
         final Rows sounds = new Rows(5, 3);
         final Rows notes = new Rows(6, 4);
         final Rows marks = new Rows(6, 4);
-        /** What may be undone: the minute, then of each goer where and whether turned, of each ladder whether down. */
+        /** The minute; where each goer is; whether each is turned; whether each ladder is down. */
         final Rows past = new Rows(8, 1 + 2 * GOERS + LADDERS);
+        private final Ways ways = new Ways();
         int minute;
-        private final Ways ways;
-
-        Back(Ways ways) {
-            this.ways = ways;
-        }
 
         void reset() {
             ladders.empty();
@@ -934,7 +919,6 @@ public final class IronStairs {
             past.dropLast();
         }
 
-        /** So many minutes go by: how many steps were made. */
         int pass(int n) {
             layWays();
             int made = 0;
@@ -951,7 +935,6 @@ public final class IronStairs {
             return made;
         }
 
-        /** The cells where a goer is, minute by minute from now on. */
         void trace(int i, Row path) {
             layWays();
             int at = goers.get(i, AT);
@@ -980,7 +963,6 @@ public final class IronStairs {
             return Math.max(0, loudStep(i));
         }
 
-        /** Goers (bits) whose steps of this minute a window hears. */
         int heardAt(int w) {
             layWays();
             int bits = 0;
@@ -991,7 +973,6 @@ public final class IronStairs {
             return bits;
         }
 
-        /** How often steps of this minute are heard, each step by each window. */
         int heardInAll() {
             layWays();
             int heard = 0;
@@ -1030,7 +1011,6 @@ public final class IronStairs {
             return best;
         }
 
-        /** How many ladders up from a floor are down, one of them not counted. */
         int laddersDownOn(int floor, int without) {
             int found = 0;
             for (int k = 0; k < ladders.size(); k++) {
@@ -1043,7 +1023,7 @@ public final class IronStairs {
             return goers.get(i, TURNED) == 1 ? goers.get(i, HOME) : goers.get(i, WANT);
         }
 
-        /** The ways are shared by all backs: whoever asks tells his ladders first. */
+        /** Whoever asks for ways tells the ladders first, as they come, go and are drawn in many places. */
         private void layWays() {
             int open = 0;
             for (int k = 0; k < ladders.size(); k++) open |= ladders.get(k, DOWN) << ladders.get(k, CELL);
@@ -1058,10 +1038,10 @@ public final class IronStairs {
 
         private final Row bytes = new Row(LIMIT);
         private int length;
-        /** The place behind the token, the token's kind, its first byte's place, a number's value. */
+        /** The first place behind the token; the token itself begins at start. */
         private int place;
-        private int token;
         private int start;
+        private int token;
         private int value;
 
         int length() {
@@ -1084,17 +1064,17 @@ public final class IronStairs {
             return had;
         }
 
-        /** How many items; or -10 less the place of the first token that can not stand where it is. */
+        /** Whatever takes a token stops at the first one that can not stand there, so a fault is where it starts. */
         int readInto(Back draft) {
             draft.reset();
             place = 0;
-            step();
-            if (!isWord("back") || !isEnded()) return -10 - start;
+            nextToken();
+            if (!isWord("back") || !nextIsStop()) return -10 - start;
             int items = 1;
             for (int i = 0; i < LIMIT; i++) {
-                step();
+                nextToken();
                 if (token == END) return items;
-                if (!readItem(draft) || !isEnded()) return -10 - start;
+                if (!readItem(draft) || !nextIsStop()) return -10 - start;
                 items++;
             }
             return items;
@@ -1110,64 +1090,61 @@ public final class IronStairs {
         }
 
         private boolean readLadder(Back draft) {
-            if (draft.ladders.isFull() || !isNumber(0, LADDER_CELLS - 1)) return false;
+            if (draft.ladders.isFull() || !nextIsNumber(0, LADDER_CELLS - 1)) return false;
             if (draft.hasLadder(value)) return false;
             draft.addLadder(value);
             return true;
         }
 
         private boolean readGoer(Back draft) {
-            if (draft.goers.isFull() || !isNumber(0, KINDS - 1)) return false;
+            if (draft.goers.isFull() || !nextIsNumber(0, KINDS - 1)) return false;
             int kind = value;
-            if (!isNumber(0, CELLS - 1)) return false;
+            if (!nextIsNumber(0, CELLS - 1)) return false;
             int home = value;
-            if (!isNumber(0, CELLS - 1)) return false;
+            if (!nextIsNumber(0, CELLS - 1)) return false;
             draft.addGoer(kind, home, value);
             return true;
         }
 
         private boolean readWindow(Back draft) {
-            if (draft.windows.isFull() || !isNumber(0, KINDS - 1)) return false;
+            if (draft.windows.isFull() || !nextIsNumber(0, KINDS - 1)) return false;
             int kind = value;
-            if (!isNumber(0, CELLS - 1)) return false;
+            if (!nextIsNumber(0, CELLS - 1)) return false;
             draft.addWindow(kind, value);
             return true;
         }
 
         private boolean readTurn(Back draft) {
-            if (!isNumber(0, draft.goers.size() - 1)) return false;
+            if (!nextIsNumber(0, draft.goers.size() - 1)) return false;
             draft.turnGoer(value);
             return true;
         }
 
         private boolean readDraw(Back draft) {
-            if (!isNumber(0, draft.ladders.size() - 1)) return false;
+            if (!nextIsNumber(0, draft.ladders.size() - 1)) return false;
             draft.drawLadder(value);
             return true;
         }
 
         private boolean readMinutes(Back draft) {
-            if (!isNumber(1, 99)) return false;
+            if (!nextIsNumber(1, 99)) return false;
             draft.pass(value);
             return true;
         }
 
-        /** Takes the next token: whether it ends an item. */
-        private boolean isEnded() {
-            step();
+        private boolean nextIsStop() {
+            nextToken();
             return token == STOP;
         }
 
-        /** Takes the next token: whether it is a number as told, of one figure or two. */
-        private boolean isNumber(int low, int high) {
-            step();
+        private boolean nextIsNumber(int low, int high) {
+            nextToken();
             if (token != NUMBER || place - start > 2) return false;
             value = bytes.get(place - 1) - '0';
             if (place - start == 2) value += 10 * (bytes.get(start) - '0');
             return value >= low && value <= high;
         }
 
-        /** Whether the token taken last is this word. */
         private boolean isWord(String word) {
             if (token != WORD || place - start != word.length()) return false;
             for (int i = 0; i < word.length(); i++) {
@@ -1176,28 +1153,21 @@ public final class IronStairs {
             return true;
         }
 
-        private void step() {
+        private void nextToken() {
             while (place < length && bytes.get(place) == ' ') place++;
             start = place;
-            if (place >= length) {
-                token = END;
-                return;
-            }
-            int first = bytes.get(place);
-            if (first >= 'a' && first <= 'z') {
-                token = WORD;
-                stepOver('a', 'z');
-            } else if (first >= '0' && first <= '9') {
-                token = NUMBER;
-                stepOver('0', '9');
-            } else {
-                token = first == ';' ? STOP : WRONG;
-                place++;
-            }
+            token = END;
+            if (place >= length) return;
+            token = tokenBegunBy(bytes.get(place));
+            place++;
+            if (token != WORD && token != NUMBER) return;
+            while (place < length && tokenBegunBy(bytes.get(place)) == token) place++;
         }
 
-        private void stepOver(int low, int high) {
-            while (place < length && bytes.get(place) >= low && bytes.get(place) <= high) place++;
+        private static int tokenBegunBy(int b) {
+            if (b >= 'a' && b <= 'z') return WORD;
+            if (b >= '0' && b <= '9') return NUMBER;
+            return b == ';' ? STOP : WRONG;
         }
     }
 }

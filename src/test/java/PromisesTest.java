@@ -266,6 +266,10 @@ public final class PromisesTest {
         due("the image is there", x.from(0), 1);
         counts("from the image", x, 1, 0, 1, 5, 1, 1, 1, 1, 1, 49);
 
+        type(x, "back;window 1 1;");
+        due("read() again", x.read(), 2);
+        counts("read over again", x, 0, 0, 1, 0, 0, 0, 0, 0, 0, 16);
+        x.from(0);
         type(x, "back;goer 0 0 0;oops;");
         long h = x.digest();
         due("a fault", x.read(), -26);
@@ -287,7 +291,13 @@ public final class PromisesTest {
         fault("7back;", 0);
         fault("Back;", 0);
         fault("backs;", 0);
+        fault("pack;", 0);
+        fault("bakk;", 0);
         fault("back back;", 5);
+        fault("back;hoer 0 0 0;", 5);
+        fault("back;goez 0 0 0;", 5);
+        fault("back;goerz 0 0 0;", 5);
+        fault("back;goera 0 0 0;", 5);
         fault("back 1;", 5);
         fault("back;;", 5);
         fault("back; back;", 6);
@@ -430,6 +440,18 @@ public final class PromisesTest {
         due("where 1", x.of(1, 3), 1);
         due("undo of none", x.undo(), NO);
         refusals("undo", x, 0, 2, 0);
+        x = told("back;ladder 0;goer 0 5 6;");
+        x.turns(0);
+        x.draws(0);
+        x.minutes(1);
+        x.undo();
+        due("where the first was", x.of(0, 3), 5);
+        due("BACK", x.of(0, 4), 1);
+        due("the first LADDER is up", x.rungs(0, 1), 0);
+        x.undo();
+        due("down again", x.rungs(0, 1), 1);
+        x.undo();
+        due("OUT again", x.of(0, 4), 0);
         for (int i = 0; i < 9; i++) x.minutes(i + 1);
         due("8 at most", x.count(8), 8);
         int minute = 45;
@@ -440,7 +462,6 @@ public final class PromisesTest {
         due("the first is forgotten", x.undo(), NO);
         due("the MINUTE", x.count(3), 1);
         x.minutes(1);
-        x.sound(0, 0, 1);
         x.note(0, 0, 0, 0);
         due("undo leaves NOTES", x.undo(), 1);
         due("NOTES", x.count(6), 1);
@@ -458,6 +479,14 @@ public final class PromisesTest {
         due("of(0, 7)", x.of(0, 7), BAD);
         due("of(0, -1)", x.of(0, -1), BAD);
         refusals("of", x, 4, 0, 0);
+        x.draws(0);
+        due("NEXT along the FLOOR", x.of(1, 5), 9);
+        x.turns(1);
+        due("NEXT with no WAY", x.of(1, 5), 8);
+        due("LOUD with no WAY", x.of(1, 6), 0);
+        x.draws(0);
+        due("LOUD, let down", x.of(1, 6), 3);
+        x.turns(1);
         x.minutes(1);
         x.turns(1);
         due("BACK", x.of(1, 4), 1);
@@ -529,6 +558,13 @@ public final class PromisesTest {
                 due("KIND " + kind + " at " + c + " HEARS 0", x.about(0, 2), kind == 3 && c <= 1 ? 1 : 0);
             }
         }
+        // a BOOT's step on FLOOR 2 is 4 loud: a PLAIN WINDOW HEARS it 3 off, FLOORS and COLUMNS together
+        for (int c = 0; c < 20; c++) {
+            IronStairs x = goers(1, 9, 11);
+            x.window(0, c);
+            int d = Math.abs(c / 4 - 2) + Math.abs(c % 4 - 1);
+            due("PLAIN at " + c + " HEARS 4 at 9", x.about(0, 2), d <= 3 ? 1 : 0);
+        }
         IronStairs x = goers(1, 0, 1, 1, 2, 2, 3, 3, 0, 1, 0, 19);
         x.window(0, 0);
         x.window(3, 2);
@@ -584,6 +620,9 @@ public final class PromisesTest {
         due("at the end", x.meet(0, 3), 3);
         due("now", x.meet(0, 4), 0);
         due("now", x.meet(2, 3), 0);
+        IronStairs apart = goers(0, 0, 0, 0, 1, 1);
+        due("never", apart.meet(0, 1), NONE);
+        due("never", apart.meet(1, 0), NONE);
         due("alike", x.meet(1, 1), BAD);
         due("meet(0, 5)", x.meet(0, 5), BAD);
         due("meet(-1, 0)", x.meet(-1, 0), BAD);
@@ -631,6 +670,12 @@ public final class PromisesTest {
         due("nobody", new IronStairs().down(1), 0);
         x = told("back;ladder 1;ladder 2;goer 0 6 6;goer 0 7 7;");
         due("the nearest of the ladders", x.down(0), 2);
+        for (int c = 0; c < 4; c++) {
+            x = new IronStairs();
+            x.ladder(c);
+            x.goer(0, 4 + c, 0);
+            due("straight down to " + c, x.down(0), 1);
+        }
     }
 
     // Promise 21
@@ -683,6 +728,13 @@ public final class PromisesTest {
         due("how much", x.doors(NONE), 4);
         due("the first such way", x.doors(0), 0);
         due("the first such way", x.doors(1), 1);
+        x.image(0);
+        x.goer(0, 5, 5);
+        due("three of them", x.doors(NONE), 4);
+        x.from(0);
+        due("two of them", x.doors(NONE), 4);
+        x.back();
+        due("nobody", x.doors(NONE), 0);
         x = told("back;ladder 0;goer 0 0 4;goer 0 1 1;minutes 1;draw 0;");
         due("by no way", x.doors(NONE), -6);
         due("by no way", x.doors(1), -6);
@@ -924,6 +976,12 @@ public final class PromisesTest {
         x = told("back;goer 1 0 3;goer 1 3 0;window 0 0;window 4 3;");
         // goer 1 turns BACK, where he is already: he stays; goer 0 is heard at 0, and at 3 by the DOG
         due("one MINUTE with a turn", x.nights(5, 1), 2);
+        x.turns(1);
+        due("BACK already, so OUT then, which the DOG hears", x.nights(5, 1), 3);
+        x.minutes(1);
+        due("from where they are now", x.nights(5, 1), 2 + 1);
+        x.undo();
+        x.turns(1);
         long h = x.digest();
         due("no WINDOW", goers(1, 0, 3).nights(5, 60), 0);
         due("nights(-1, 0)", x.nights(-1, 0), BAD);
