@@ -184,15 +184,12 @@ public final class BoundsOfAnswersTest {
             due("LIGHT at " + c, x.about(0, 2), (d0 <= 4 ? 1 : 0) + (d3 <= 4 ? 2 : 0));
             due("DOG at " + c, x.about(1, 2), 3);
         }
-        // 2 loud and 6 less d: 16 and 3, 7 far, are apart from 17, 6 far, and from 13, 5 far
-        IronStairs x = new IronStairs();
-        x.minutes(1);
-        x.goer(5, 3, 0);
-        for (int c : new int[] {16, 17, 13}) x.window(4, c);
-        due("odd: 2 loud", x.of(0, 6), 2);
-        due("7 far", x.about(0, 2), 0);
-        due("6 far", x.about(1, 2), 0);
-        due("5 far", x.about(2, 2), 1);
+        // a BOOT's step is 5 loud at 16: a LIGHT one HEARS it as 7 less d, 6 far, but not 7 far
+        for (int c = 0; c < 20; c++) {
+            IronStairs x = Sentences.goers(1, 16, 17);
+            x.window(1, c);
+            due("LIGHT at " + c, x.about(0, 2), c == 3 ? 0 : 1);
+        }
     }
 
     @Sentences.Holds("Terms: HEARS of a WINDOW: GOERS (bits) whose steps of this MINUTE it HEARS (who stays makes none)")
@@ -297,6 +294,10 @@ public final class BoundsOfAnswersTest {
         due("on FLOOR 0", Sentences.goers(0, 3, 19).down(0), 0);
         due("one above", Sentences.told("back;ladder 3;goer 0 7 7;").down(0), 1);
         due("from 19, to 3 alone", Sentences.told(LONG + "goer 0 19 19;").down(0), 16);
+        for (int c = 0; c < 4; c++) {
+            String below = "back;ladder " + c + ";goer 0 " + (4 + c) + " 0;";
+            due("straight down to " + c, Sentences.told(below).down(0), 1);
+        }
         due("by the nearest", Sentences.told("back;ladder 1;ladder 2;goer 0 7 7;goer 0 4 4;").down(0), 2);
     }
 
@@ -357,6 +358,9 @@ public final class BoundsOfAnswersTest {
         x = Sentences.goers(0, 0, 3, 0, 0, 3);
         x.minutes(60);
         due("all the way", x.doors(NONE), 6);
+        x = Sentences.goers(0, 0, 0, 0, 3, 0);
+        x.minutes(60);
+        due("no two to one HOME", x.doors(NONE), 3);
     }
 
     @Sentences.Holds("Promise 22: -6: none (whatever i is, as told).")
@@ -487,6 +491,7 @@ public final class BoundsOfAnswersTest {
         IronStairs x = Sentences.goers(0, 0, 3, 0, 4, 7);
         int[] rest = {0, 1, 2, 10, 11, 12, 20, 21, 22};
         for (int k = 0; k < rest.length; k++) due("shy(0, 1, " + k + ")", x.shy(0, 1, k), rest[k]);
+        due("no more", x.shy(0, 1, NONE), rest.length);
     }
 
     @Sentences.Holds("Promise 32: SHY: how many (k = NONE), the k-th. -5: not so many.")
@@ -501,6 +506,14 @@ public final class BoundsOfAnswersTest {
         due("none rests", x.shy(0, 1, NONE), 0);
         due("the first of none", x.shy(0, 1, 0), -5);
         Sentences.refusals("-5", x, 0, 0, 0);
+    }
+
+    @Sentences.Holds("Terms: SHY: GOERS .. stay i, j (0 .. 9) MINUTES: none at all")
+    private static void shyNoStay() {
+        // a goes 2 1, b goes 0 1 2: if a does not stay, b comes to him at 1; if a stays 1, they may go past one another
+        IronStairs x = Sentences.goers(0, 2, 1, 0, 0, 2);
+        due("shy(0, 1, NONE)", x.shy(0, 1, NONE), 3);
+        for (int k = 0; k < 3; k++) due("shy(0, 1, " + k + ")", x.shy(0, 1, k), k);
     }
 
     @Sentences.Holds("Terms: SHY: GOERS .. stay i, j (0 .. 9) MINUTES: the longest stay")
@@ -606,13 +619,15 @@ public final class BoundsOfAnswersTest {
     /** Sixty MINUTES by calls, one after the other. */
     private static long slowNights(String text, long seed) {
         IronStairs x = Sentences.told(text);
+        int goers = x.count(0);
+        int windows = x.count(2);
         long s = seed;
         long heard = 0;
         for (int m = 0; m < 60; m++) {
             s = (s * 1103515245L + 12345L) % 2147483648L;
             int goer = (int) (s / 65536 % 6);
-            if (goer < x.count(0)) x.turns(goer);
-            for (int w = 0; w < x.count(2); w++) heard += Integer.bitCount(x.about(w, 2));
+            if (goer < goers) x.turns(goer);
+            for (int w = 0; w < windows; w++) heard += Integer.bitCount(x.about(w, 2));
             x.minutes(1);
         }
         return heard;

@@ -436,9 +436,16 @@ public final class BoundsOfRowsTest {
         x.minutes(60);
         long h = x.digest();
         x.image(0);
+        // as much again, and all of it other
         x.back();
-        x.goer(5, 5, 5);
-        x.minutes(1);
+        for (int n = 0; n < 6; n++) x.ladder(6 + n);
+        for (int n = 0; n < 6; n++) x.goer(n, 19 - n, 19 - n);
+        for (int n = 0; n < 4; n++) x.window(5 - n, 9 + n);
+        for (int n = 0; n < 6; n++) x.note(5 - n, 4, 4, 19);
+        for (int n = 0; n < 6; n++) x.mark(3 - n % 4, 1, 7, 1 - n % 2);
+        for (int n = 0; n < 5; n++) x.sound(3 - n % 4, 1, 1);
+        for (int n = 0; n < 6; n++) x.draws(n);
+        for (int n = 0; n < 8; n++) x.minutes(1);
         x.from(0);
         due("as it was", x.digest(), h);
         for (int n = 0; n < 8; n++) due("undo", x.undo(), 0);

@@ -143,12 +143,17 @@ public final class BoundsOfTextTest {
         faultAt("^bac;");
         faultAt("^backs;");
         faultAt("^bakc;");
+        faultAt("^pack;");
+        faultAt("^bacs;");
         faultAt("^b;");
         for (String word : new String[] {"ladder", "goer", "window", "turn", "draw", "minutes"}) {
             faultAt("back;^" + word + "s 0 0 0;");
             faultAt("back;^" + word.substring(0, word.length() - 1) + " 0 0 0;");
             faultAt("back;^" + word.substring(1) + " 0 0 0;");
             faultAt("back;^x" + word + " 0 0 0;");
+            faultAt("back;^x" + word.substring(1) + " 0 0 0;");
+            faultAt("back;^" + word.substring(0, word.length() - 1) + "x 0 0 0;");
+            faultAt("back;^" + word.charAt(0) + "x" + word.substring(2) + " 0 0 0;");
         }
         faultAt("back;^minute 1;");
     }
@@ -395,6 +400,8 @@ public final class BoundsOfTextTest {
     @Sentences.Holds("Terms: FAULT: a TOKEN that can not stand there: a word for a number, a number for a word")
     private static void otherToken() {
         faultAt("back;ladder ^ladder;");
+        faultAt("back;minutes ^a;");
+        faultAt("back;minutes ^;;");
         faultAt("back;goer 0 ^back;");
         faultAt("back;^0;");
         faultAt("back;^12 ladder 0;");
@@ -404,6 +411,7 @@ public final class BoundsOfTextTest {
 
     @Sentences.Holds("Terms: FAULT: the place of the first byte of the first TOKEN that can not stand there")
     private static void firstOfFaults() {
+        faultAt("^oops;back;");
         faultAt("back;goer ^6 20 20;");
         faultAt("back;goer 5 ^20 20;");
         faultAt("back;ladder ^16;oops;");
@@ -413,7 +421,7 @@ public final class BoundsOfTextTest {
 
     // ---- what it takes the place of
 
-    /** Five ITEMS behind a BACK with all there may be of everything, an image of which is kept. */
+    /** The TEXT stands to be read over a BACK with all there may be of everything, an image of which is kept. */
     private static IronStairs readOver(String text) {
         IronStairs x = Sentences.full();
         for (int n = 0; n < 6; n++) x.note(n, 0, 0, 0);
@@ -427,6 +435,7 @@ public final class BoundsOfTextTest {
         for (int n = 0; n < 8; n++) x.minutes(1);
         x.image(1);
         x.minutes(1);
+        x.nights(5, 1);
         Sentences.type(x, text);
         return x;
     }
@@ -440,6 +449,8 @@ public final class BoundsOfTextTest {
         due("GOER", x.of(0, 1), 2);
         due("WINDOW", x.about(0, 1), 5);
         due("another LADDER", x.ladder(0), 1);
+        due("read() again", x.read(), 4);
+        Sentences.counts("read again", x, 1, 1, 1, 0, 0, 0, 0, 0, 0, 36);
     }
 
     @Sentences.Holds("Terms: A BACK that is read takes the place of all but IMAGES")

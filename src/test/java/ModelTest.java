@@ -6,8 +6,9 @@ import java.util.regex.Pattern;
 
 /** Random runs of calls, each answer held against a slow and plain model of the document. */
 public final class ModelTest {
-    private static final int RUNS = 300;
-    private static final int CALLS = 500;
+    private static final int RUNS = 400;
+    /** Nothing is promised of an object behind its 512th call; one round takes up to 155: a text typed, a call, a digest. */
+    private static final int CALLS = 512 - 155;
 
     public static void main(String[] args) {
         for (int run = 0; run < RUNS; run++) {
@@ -24,11 +25,16 @@ public final class ModelTest {
         Model model = new Model();
         List<String> told = new ArrayList<>();
         boolean wild = seed % 5 == 0;
-        for (int n = 0; n < CALLS; n++) {
+        for (int calls = 0; calls < CALLS; calls += 2) {
             String call = pick(random, model);
             int[] a = {argument(random, wild), argument(random, wild), argument(random, wild), argument(random, wild)};
             if (!wild || random.nextBoolean()) shape(call, a, random, model);
-            if (call.equals("read") && random.nextInt(10) > 0) told.add(typeText(x, model, Texts.make(random)));
+            if (call.equals("read") && random.nextInt(10) > 0) {
+                String text = Texts.make(random);
+                typeText(x, model, text);
+                told.add("clear, type of each of '" + text + "'");
+                calls += 1 + text.length();
+            }
             long want = model.answer(call, a);
             long got = answer(x, call, a);
             told.add(call + " of " + a[0] + ", " + a[1] + ", " + a[2] + ", " + a[3] + " answered " + got);
@@ -42,14 +48,13 @@ public final class ModelTest {
     }
 
     /** A text is typed whole, so that some are read whole. */
-    private static String typeText(IronStairs x, Model model, String text) {
+    private static void typeText(IronStairs x, Model model, String text) {
         x.clear();
         model.clear();
         for (int i = 0; i < text.length(); i++) {
             x.type(text.charAt(i));
             model.type(text.charAt(i));
         }
-        return "clear, type of each of '" + text + "'";
     }
 
     /** Mostly a call for which enough is there. */
