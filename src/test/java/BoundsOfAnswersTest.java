@@ -228,6 +228,9 @@ public final class BoundsOfAnswersTest {
         due("past one another", x.meet(0, 1), NONE);
         due("on other FLOORS", x.meet(0, 2), NONE);
         Sentences.refusals("NONE", x, 0, 0, 0);
+        x = Sentences.goers(0, 0, 0, 0, 5, 5);
+        due("one stays at 0", x.meet(0, 1), NONE);
+        due("the other stays at 0", x.meet(1, 0), NONE);
     }
 
     @Sentences.Holds("Terms: WAIT .. how many MINUTES (0 .. 20) .. so that both are in one CELL: the least (0)")
@@ -271,6 +274,9 @@ public final class BoundsOfAnswersTest {
         due("always now", x.waits(0, 2, 0), NONE);
         due("never: another FLOOR", x.waits(0, 3, 1), NONE);
         Sentences.refusals("NONE", x, 0, 0, 0);
+        x = Sentences.goers(0, 0, 0, 0, 5, 5);
+        due("one stays at 0", x.waits(0, 1, 1), NONE);
+        due("the other stays at 0", x.waits(1, 0, 1), NONE);
     }
 
     // ---- down, cut, doors

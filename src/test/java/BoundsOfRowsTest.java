@@ -104,6 +104,63 @@ public final class BoundsOfRowsTest {
         for (int n = 0; n < 4; n++) due("window", x.window(0, 0), n);
     }
 
+    @Sentences.Holds("Promise 2: All as at first (but for IMAGES ..)")
+    private static void backKeepsImages() {
+        IronStairs x = Sentences.goers(0, 0, 3);
+        x.minutes(1);
+        x.image(1);
+        x.back();
+        due("from(0)", x.from(0), NO);
+        due("from(1)", x.from(1), 1);
+        due("where", x.of(0, 3), 1);
+        due("what may be undone", x.undo(), 0);
+    }
+
+    @Sentences.Holds("Promise 2: All as at first (but for .. THE TEXT ..)")
+    private static void backKeepsTheText() {
+        IronStairs x = Sentences.told("back;goer 0 0 0;");
+        x.back();
+        due("bytes", x.count(9), 16);
+        due("read()", x.read(), 2);
+        due("clear()", x.clear(), 16);
+    }
+
+    @Sentences.Holds("Promise 2: All as at first (but for .. THE FRACTION ..)")
+    private static void backKeepsTheFraction() {
+        IronStairs x = new IronStairs();
+        x.ladder(0);
+        x.odds(0, 4, 3);
+        x.back();
+        Sentences.fraction("as last", x, 7, 10);
+    }
+
+    @Sentences.Holds("Promise 2: All as at first (but for .. STATUS)")
+    private static void backKeepsStatus() {
+        IronStairs x = Sentences.full();
+        x.ladder(16);
+        x.undo();
+        x.ladder(1);
+        x.back();
+        Sentences.refusals("as last", x, 1, 1, 1);
+    }
+
+    @Sentences.Holds("What it is: An object is used for at most 512 calls: the last one, as what is counted up to then")
+    private static void lastOfTheCalls() {
+        IronStairs x = new IronStairs();
+        for (int n = 1; n <= 511; n++) due("bad call " + n, x.far(-1, n), BAD);
+        due("status(0)", x.status(0), 511);
+        x = new IronStairs();
+        for (int n = 1; n <= 511; n++) due("undo() " + n, x.undo(), NO);
+        due("status(1)", x.status(1), 511);
+        x = new IronStairs();
+        for (int w = 0; w < 4; w++) x.window(0, w);
+        for (int n = 5; n <= 511; n++) due("call " + n, x.window(0, 0), FULL);
+        due("status(2)", x.status(2), 507);
+        x = Sentences.goers(1, 0, 3);
+        for (int n = 2; n <= 511; n++) due("call " + n, x.turns(0), 1 - n % 2);
+        due("undo(), the last", x.undo(), 0);
+    }
+
     @Sentences.Holds("Promise 20: DOWN: the most (0; nobody: 0)")
     private static void downOfNobody() {
         IronStairs x = new IronStairs();
