@@ -67,6 +67,10 @@ public final class ReadmeTest {
         }
         holds(whole == 1 && examples > 0, "there are a program and examples");
         for (Method m : face()) holds(called.contains(m.getName()), "there is an example of " + m.getName());
+        try (Stream<Path> files = Files.list(dir)) {
+            for (Path p : files.toList()) Files.delete(p);
+        }
+        Files.delete(dir);
     }
 
     /** A program that prints what is not as the example's lines tell. */
